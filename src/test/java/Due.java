@@ -1,0 +1,50 @@
+/** What the tests share: answers that are due, counted when they are not given. */
+final class Due {
+    private int wrong = 0;
+    private int asked = 0;
+    private String part = "";
+
+    void part(String name) {
+        part = name;
+    }
+
+    void is(String call, long got, long want) {
+        asked++;
+        if (got != want) {
+            wrong++;
+            System.out.println(part + ": " + call + " answered " + got + ", due is " + want);
+        }
+    }
+
+    void isTrue(String what, boolean holds) {
+        is(what, holds ? 1 : 0, 1);
+    }
+
+    void end() {
+        System.out.println(asked + " answers asked, " + wrong + " wrong");
+        if (wrong != 0) {
+            System.exit(1);
+        }
+    }
+
+    static void type(WoundMedals x, String text) {
+        for (int i = 0; i < text.length(); i++) {
+            x.type(text.charAt(i));
+        }
+    }
+
+    static int tell(WoundMedals x, String text) {
+        type(x, text);
+        return x.state();
+    }
+
+    /** A new object that has been told a state. */
+    static WoundMedals of(String text) {
+        WoundMedals x = new WoundMedals();
+        int men = tell(x, text);
+        if (men < 1) {
+            throw new IllegalStateException(text + " is no state: " + men);
+        }
+        return x;
+    }
+}
