@@ -139,17 +139,7 @@ public final class WoundMedals {
     // ---- what is done
 
     public int days(int n) {
-        if (n < 1 || n > MOST_DAYS) {
-            return BAD;
-        }
-        if (now.day + n > LAST_DAY) {
-            return FULL;
-        }
-        for (int i = 0; i < n; i++) {
-            past.keep(now);
-            now.passDay();
-        }
-        return now.bentBehind(0);
+        return passDays(n, false);
     }
 
     public int hang(int medal, int man) {
@@ -178,18 +168,7 @@ public final class WoundMedals {
     }
 
     public int drift(int n) {
-        if (n < 1 || n > MOST_DAYS) {
-            return BAD;
-        }
-        if (now.day + n > LAST_DAY) {
-            return FULL;
-        }
-        for (int i = 0; i < n; i++) {
-            past.keep(now);
-            now.drawAndHang();
-            now.passDay();
-        }
-        return now.bentBehind(0);
+        return passDays(n, true);
     }
 
     public int undo() {
@@ -321,7 +300,7 @@ public final class WoundMedals {
     }
 
     public int error(int man, int what) {
-        if (man < -1 || (man != -1 && !now.hasMan(man)) || what < 0 || what > 1) {
+        if ((man != -1 && !now.hasMan(man)) || what < 0 || what > 1) {
             return BAD;
         }
         hanging.prepare();
@@ -448,6 +427,23 @@ public final class WoundMedals {
 
     // ---- what the calls share
 
+    private int passDays(int n, boolean drifting) {
+        if (n < 1 || n > MOST_DAYS) {
+            return BAD;
+        }
+        if (now.day + n > LAST_DAY) {
+            return FULL;
+        }
+        for (int i = 0; i < n; i++) {
+            past.keep(now);
+            if (drifting) {
+                now.drawAndHang();
+            }
+            now.passDay();
+        }
+        return now.bentBehind(0);
+    }
+
     private static boolean isSheet(int sheet) {
         return sheet >= 0 && sheet < SHEETS;
     }
@@ -562,13 +558,7 @@ public final class WoundMedals {
 
         /** The set of medals that a man wears; by NONE, of those in drawers. */
         int wornBy(int man) {
-            int set = 0;
-            for (int medal = 0; medal < medals; medal++) {
-                if (wearer[medal] == man) {
-                    set |= 1 << medal;
-                }
-            }
-            return set;
+            return medalsWith(wearer, man);
         }
 
         int allWorn() {
@@ -576,9 +566,13 @@ public final class WoundMedals {
         }
 
         int woundsOf(int man) {
+            return medalsWith(wound, man);
+        }
+
+        private int medalsWith(int[] whose, int man) {
             int set = 0;
             for (int medal = 0; medal < medals; medal++) {
-                if (wound[medal] == man) {
+                if (whose[medal] == man) {
                     set |= 1 << medal;
                 }
             }
@@ -768,6 +762,8 @@ public final class WoundMedals {
     private static final class Hanging {
         /** One more who is bent outweighs all changes of hands, of which there are at most six. */
         static final int BENT_COST = 16;
+        /** Dearer than any way: loads stay below 300. */
+        private static final int DEAREST = 1000000;
 
         private final Muster muster;
         private final int[][] loads = new int[MOST_MEN][SETS_OF_MEDALS];
@@ -813,7 +809,7 @@ public final class WoundMedals {
             for (int medal = 0; medal < MOST_MEDALS; medal++) {
                 tried[medal] = NONE;
             }
-            bestCost = Integer.MAX_VALUE;
+            bestCost = DEAREST;
             hangFrom(0, 0);
         }
 

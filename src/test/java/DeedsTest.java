@@ -34,7 +34,9 @@ public final class DeedsTest {
         WoundMedals y = Due.of("6-1,9;f4:1@0");
         due.is("FOREIGN bends on odd days", y.days(1), 1);
         due.is("STRENGTH is 6", y.of(0, 1), 6);
+        due.is("BENT by count", y.count(3), 1);
         due.is("no more on even ones", y.days(1), 0);
+        due.is("none BENT by count", y.count(3), 0);
         due.is("STRENGTH is 5", y.of(0, 1), 5);
         due.is("days(0)", x.days(0), -1);
         due.is("days(41)", x.days(41), -1);
@@ -70,6 +72,12 @@ public final class DeedsTest {
         due.is("and farther", x.ahead(0, 59, 1), 5);
         x.undo();
         due.is("no day is undone by it", x.count(2), 9999);
+        WoundMedals y = new WoundMedals();
+        for (int i = 0; i < 249; i++) {
+            y.drift(40);
+        }
+        due.is("drift to 9999", y.drift(39), 0);
+        due.is("the DAY 9999 of a drift", y.count(2), 9999);
     }
 
     private static void hang() {
@@ -162,6 +170,10 @@ public final class DeedsTest {
         due.is("three at once", y.drift(3), 2);
         due.is("three may be UNDONE", y.count(7), 3);
         due.is("THE DRAW of three", y.seed(0), 662824084);
+        WoundMedals z = Due.of("5-1;f9:0");
+        due.is("one MEDAL to one man", z.drift(1), 1);
+        due.is("his own on an odd DAY", z.of(0, 2), 6);
+        due.is("who is BENT then, not a DAY on", z.drift(1), 0);
     }
 
     private static void undo() {

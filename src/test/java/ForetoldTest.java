@@ -106,11 +106,9 @@ public final class ForetoldTest {
         due.is("without MEN", none.even(-1), 0);
         due.is("without MEDALS", none.even(0), -4);
         WoundMedals x = Due.of("9,9,9;b9:0@0,b4:1@0,b4:2,b5:2@0");
-        // MEDAL 0 on his own bears 4, 1 on man 1 bears 2, 3 on man 2 bears 2: the greatest is 4.
+        // Each on his own: 4, 2 and 2. MEDAL 0 bears 9 elsewhere, 1 on man 2 makes it 6, 3 on man 1 makes it 7.
         due.is("how much", x.even(-1), 4);
-        int[] wear = {0, 1, -4, 1};
-        // MEDAL 3 on man 1 bears 5, above 4; on man 2 2; on man 0 4 and 5.
-        wear[3] = 2;
+        int[] wear = {0, 1, -4, 2};
         for (int k = 0; k < 4; k++) {
             due.is("even(" + k + ")", x.even(k), wear[k]);
         }

@@ -175,8 +175,10 @@ public final class SheetsTest {
             due.is("BAD goes first " + b, x.sheet(0, b, -1), -1);
         }
         due.is("refused ones leave it", x.item(0, 0, 23, 1), 1);
+        x.item(0, 0, 0, 1);
         due.is("a new row", x.sheet(0, 0, 24), 24);
-        due.isTrue("is of 0", holds(x, 0, 0, 23, 0));
+        due.isTrue("is of 0", holds(x, 0, 0, 0, 0));
+        due.isTrue("is of 0 to the end", holds(x, 0, 0, 23, 0));
         due.is("of another lane", x.sheet(0, 3, 2), 2);
         due.is("it is", x.item(0, 0, 0, 1), -12);
         due.is("it has", x.drop(0), 2);
