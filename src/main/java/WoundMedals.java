@@ -127,7 +127,7 @@ public final class WoundMedals {
             case 0: return now.men;
             case 1: return now.medals;
             case 2: return now.day;
-            case 3: return now.bentBehind(0);
+            case 3: return now.allBent();
             case 4: return now.wornBy(NONE);
             case 5: return now.allStrength();
             case 6: return now.allLoads();
@@ -441,7 +441,7 @@ public final class WoundMedals {
             }
             now.passDay();
         }
-        return now.bentBehind(0);
+        return now.allBent();
     }
 
     private static boolean isSheet(int sheet) {
@@ -581,22 +581,18 @@ public final class WoundMedals {
 
         /** What a medal bears on a man who wears so many others on that day. */
         int bears(int medal, int man, int others, int onDay) {
-            int all = bearsByKind(kind[medal], weight[medal], others, onDay);
-            return wound[medal] == man ? all / 2 : all;
-        }
-
-        static int bearsByKind(int kind, int weight, int others, int onDay) {
-            switch (kind) {
-                case BARRED: return 2 * weight;
-                case FOREIGN: return foreignBears(weight, onDay);
-                case PLATE: return 2 * weight + others;
-                case MINIATURE: return foreignBears(weight, onDay) / 2;
-                default: return weight;
+            int bronze = weight[medal];
+            int barred = 2 * bronze;
+            int foreign = onDay % 2 == 0 ? bronze : bronze + 3;
+            int all;
+            switch (kind[medal]) {
+                case BARRED: all = barred; break;
+                case FOREIGN: all = foreign; break;
+                case PLATE: all = barred + others; break;
+                case MINIATURE: all = foreign / 2; break;
+                default: all = bronze; break;
             }
-        }
-
-        static int foreignBears(int weight, int onDay) {
-            return onDay % 2 == 0 ? weight : weight + 3;
+            return wound[medal] == man ? all / 2 : all;
         }
 
         int bearsNow(int medal) {
@@ -654,6 +650,16 @@ public final class WoundMedals {
                 left = strengthAfter(man, left, day + k);
             }
             return left;
+        }
+
+        int allBent() {
+            int bent = 0;
+            for (int man = 0; man < men; man++) {
+                if (isBent(man)) {
+                    bent |= 1 << man;
+                }
+            }
+            return bent;
         }
 
         int bentBehind(int n) {
