@@ -20,6 +20,28 @@ final class Due {
         is(what, holds ? 1 : 0, 1);
     }
 
+    /** The last call of a run on a new object answers this. */
+    void run(String run, long want) {
+        is(run, Run.on(new WoundMedals(), run), want);
+    }
+
+    /** The last call of a run answers this and leaves all as it was: it is refused, or it only foretells. */
+    void leaves(String run, long want) {
+        run(run, want);
+        alike(run, Run.ahead(run));
+    }
+
+    /** Behind both runs all is the same. */
+    void alike(String run, String other) {
+        String is = Whole.of(Run.anew(run));
+        String as = Whole.of(Run.anew(other));
+        asked++;
+        if (!is.equals(as)) {
+            wrong++;
+            System.out.println(part + ": behind " + run + " all is" + is + "\nbut due is" + as);
+        }
+    }
+
     void end() {
         System.out.println(asked + " answers asked, " + wrong + " wrong");
         if (wrong != 0) {

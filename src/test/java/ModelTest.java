@@ -2,8 +2,10 @@ import java.util.Random;
 
 /** Long runs of calls, by draws from a fixed seed, answered by the class as by the plain model. */
 public final class ModelTest {
-    private static final int RUNS = 700;
+    private static final int RUNS = 1200;
     private static final int CALLS = 512;
+    /** Every other run ends so early that all may be asked for behind it. */
+    private static final int CALLS_AHEAD_OF_ALL = 110;
     private static final int[] EDGES = {Integer.MIN_VALUE, -20, -5, -4, -3, -2, -1, 41, 61, 1000, Integer.MAX_VALUE};
     private static final String LETTERS = "0123456789-,;:@brfpm x";
     private static final Due due = new Due();
@@ -19,17 +21,23 @@ public final class ModelTest {
     public static void main(String[] args) {
         for (int run = 0; run < RUNS; run++) {
             due.part("run " + run);
-            new ModelTest(run).calls();
+            ModelTest test = new ModelTest(run);
+            if (run % 2 == 0) {
+                test.calls(CALLS);
+            } else {
+                test.calls(CALLS_AHEAD_OF_ALL);
+                due.isTrue("all is alike behind it", Whole.of(test.x).equals(Whole.of(test.y)));
+            }
         }
         due.end();
     }
 
-    private void calls() {
+    private void calls(int calls) {
         int done = 0;
         if (draw.nextInt(4) > 0) {
             done += tell(text());
         }
-        while (done < CALLS) {
+        while (done < calls) {
             done += call();
         }
     }
