@@ -224,6 +224,13 @@ public final class EdgesForetoldTest {
         told("9,9,9;m1:2@2,m1:2@1,b2:1@0", "even(0)", 0);
         told("9,9,9;m1:2@2,m1:2@1,b2:1@0", "even(1)", 0);
         told("9,9,9;m1:2@2,m1:2@1,b2:1@0", "even(2)", 1);
+        due.part("part 2: six MEDALS among five MEN");
+        String most = "9,9,9,9,9;b20:0@4,b20:0@4,b20:0@4,b20:0@4,b20:0@4,b20:0@4";
+        int[] wear = {0, 0, 1, 2, 3, 4};
+        told(most, "even(-1)", 20);
+        for (int medal = 0; medal < 6; medal++) {
+            told(most, "even(" + medal + ")", wear[medal]);
+        }
         due.part("part 2: now, on an odd DAY");
         due.leaves("'9,9;f5:0@0,b7:0@0' | state() | even(-1)", 5);
         due.leaves("'9,9;f5:0@0,b7:0@0' | state() | days(1) | even(-1)", 7);
@@ -285,6 +292,15 @@ public final class EdgesForetoldTest {
         told("5,6,9;b6:2@0,b5:2@0,b2:2@0,b3:0", "few(-1)", 0);
         told("5,6,9;b6:2@0,b5:2@0,b2:2@0,b3:0", "few(-2)", 2);
         told("5,6,9;b6:2@0,b5:2@0,b2:2@0,b3:0", "few(3)", -4);
+        due.part("part 2: as many change as there are, up to six");
+        String text = "9-9,9;b1:1@0";
+        for (int n = 1; n < 7; n++) {
+            told(text, "few(-1)", 0);
+            told(text, "few(-2)", n);
+            told(text, "few(0)", 1);
+            told(text, "few(" + (n - 1) + ")", 1);
+            text = text + ",b1:1@0";
+        }
     }
 
     private static void offAsTold() {
